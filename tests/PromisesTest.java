@@ -158,6 +158,15 @@ public final class PromisesTest {
         due("feed of nineteen", x.feed(-1, -1, -1, -1, 0xffffff), 239);
         due("feed of two more than 240 by one", x.feed(0, 0, 0x0101, 0, 0), NONE);
         due("count(3)", x.count(3), 239);
+        x.end(225);
+        for (int k = 0; k < 5; k++) {
+            int[] n = new int[5];
+            for (int j = 0; j < 5; j++) {
+                n[j] = j == k ? 1 : -1;
+            }
+            due("feed of seventeen more than 239", x.feed(n[0], n[1], n[2], n[3], n[4]), NONE);
+        }
+        due("feed of fourteen", x.feed(-1, 0, -1, -1, 0x0101), 239);
         due("feed of the last one", x.feed(0, 0, 0, 0, 1), 240);
         due("feed of one too many", x.feed(1, 0, 0, 0, 0), NONE);
         due("feed of nothing more", x.feed(0, 0, 0, 0, 0), 240);
@@ -178,6 +187,9 @@ public final class PromisesTest {
         due("end(4)", x.end(4), false);
         due("fault(0)", x.fault(0), NONE);
         due("end(MAX)", x.end(Integer.MAX_VALUE), false);
+        feed(x, ";   ");
+        due("end(4)", x.end(4), true);
+        due("fault(0): what was behind it is gone", x.fault(0), 4);
     }
 
     private static void countyFaults() {
@@ -207,7 +219,7 @@ public final class PromisesTest {
         // what is wrong of the whole is told at the length
         faults(0, 7, "p;p;lu0", "p;p;lr1", "p;p;lu2", "p;p;lr5", "p;p;l;l", "p;s;l;l");
         faults(0, 11, "p;p;lu0;  p", "p;p;l;lr0u1", "l;lf3;p;p;s");
-        faults(0, 9, "p;p;p;lu3", "p;p;p;lr4");
+        faults(0, 9, "p;p;p;lu3", "p;p;p;lr4", "p;p;p;lr3");
         faults(0, NONE, "p;p;p;lu2", "p;p;lu2;p", "lr5u4;p;p;p;p;p;p");
     }
 
@@ -657,6 +669,11 @@ public final class PromisesTest {
         due("undo()", x.undo(), 0);
         due("count(6)", x.count(6), 0);
         due("count(5)", x.count(5), 0);
+        for (int k = 0; k < 16; k++) {
+            due("years(60, 1)", x.years(60, 1), 60 * k + 60);
+        }
+        due("years(40, 1): beyond 999", x.years(40, 1), NONE);
+        due("years(39, 1)", x.years(39, 1), 999);
         for (long seed = -20; seed < 20; seed++) {
             yearOf(seed * 1234567890123L, 5);
         }
@@ -956,6 +973,15 @@ public final class PromisesTest {
         due("bears(1, 15, 1)", x.bears(1, 15, 1), 20);
         due("bears(1, 29, 0)", x.bears(1, 29, 0), 2);
         due("bears(1, 30, 0): three would be needed", x.bears(1, 30, 0), NONE);
+        x = county("p;p;p;p;lf0;lr2f0;lr0u2", "y:f=9?0;y:30");
+        due("bears(1, 30, 0): both, beside one another, by 9", x.bears(1, 30, 0), 18);
+        due("bears(1, 30, 1)", x.bears(1, 30, 1), 99);
+        x = county("p;pt0;p;lf5;lr2", "y:f=4|f=6?0;y:30");
+        due("bears(1, 9, 0)", x.bears(1, 9, 0), 2);
+        due("bears(1, 9, 1): of 44, 46, 64 and 66", x.bears(1, 9, 1), 44);
+        x.weeks(1);
+        x.makes(0, 1, 4);
+        due("bears(1, 1, 1): half of 60 is at the limit still", x.bears(1, 1, 1), NONE);
     }
 
     private static void ringsAndChains() {
@@ -1155,6 +1181,14 @@ public final class PromisesTest {
         promise = 35;
         SaddlerKnows x = county("ps0b0;ps0b1t0;ps0b0t0;lr0u1f3;lr1u2f5;lr2u1f1");
         due("shares(1, 999): none", x.shares(1, 999), 0);
+        x.off(2);
+        x.off(1);
+        x.stitch(0, 2);
+        x.weeks(1);
+        due("shares(1, 999): all of 1", x.shares(1, 999), 999);
+        while (x.undo() > 0) {
+            due("shares(0, 999)", x.shares(0, 999), 0);
+        }
         x.weeks(1);
         due("shares(1, 999): 2 of 7", x.shares(1, 999), 285);
         due("shares(2, 999): 5 of 7", x.shares(2, 999), 713);

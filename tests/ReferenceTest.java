@@ -42,27 +42,36 @@ public final class ReferenceTest {
         final Model m = new Model();
         final List<String> told = new ArrayList<>();
         final int style;
+        static final int BARE = 0;
+        static final int LATE = 1;
+        static final int CROWDED = 2;
+        static final int BLANKS = 3;
         String wrong;
         int calls;
 
         Run(long seed) {
             random = new Random(seed);
-            style = random.nextInt(4);
+            style = random.nextInt(5);
         }
 
         int go() {
-            if (style != 0) {
+            if (style != BARE) {
                 tell(county(), 0);
             }
+            if (style == LATE) {
+                for (int k = 0; k < 16; k++) {
+                    same("weeks(60)", x.weeks(60), m.weeks(60));
+                }
+            }
             while (calls < MOST_CALLS && wrong == null) {
-                if (chance(3)) {
+                if (chance(style == LATE ? 0 : 3)) {
                     tell(county(), 0);
-                } else if (chance(4)) {
+                } else if (chance(style == CROWDED ? 1 : 4)) {
                     tell(lawText(), 1);
                 } else if (chance(12)) {
-                    tell(spoiled(chance(50) ? county() : lawText()), random.nextInt(3) - (chance(5) ? 1 : 0));
+                    tell(spoiled(chance(50) ? county() : lawText()), style == LATE ? 1 : random.nextInt(3));
                 } else {
-                    call(random.nextInt(44));
+                    call(style == CROWDED && chance(15) ? 26 : random.nextInt(44));
                 }
             }
             return calls;
@@ -90,7 +99,7 @@ public final class ReferenceTest {
         // ---- texts ----
 
         String blank() {
-            return style == 3 && chance(20) ? " " : "";
+            return style == BLANKS && chance(20) ? " " : "";
         }
 
         String county() {
@@ -107,7 +116,7 @@ public final class ReferenceTest {
             TreeSet<Integer> pairs = new TreeSet<>();
             for (int k = 0; k < saddles; k++) {
                 int one = random.nextInt(persons);
-                int other = random.nextInt(persons);
+                int other = style == CROWDED && chance(75) ? 1 : random.nextInt(persons);
                 if (chance(2) || one != other && pairs.add(one * 6 + other)) {
                     clauses.add("l" + blank() + "r" + one + blank() + "u" + blank() + other
                         + (chance(80) ? "f" + random.nextInt(10) : ""));
@@ -365,6 +374,7 @@ public final class ReferenceTest {
                     break;
                 case 26: {
                     int n = among(1, 30);
+                    a = style == CROWDED && chance(60) ? 1 : a;
                     same("bears(" + a + ", " + n + ", 0)", x.bears(a, n, 0), m.bears(a, n, 0));
                     same("bears(" + a + ", " + n + ", 1)", x.bears(a, n, 1), m.bears(a, n, 1));
                     same("bears(" + a + ", " + n + ", 2)", x.bears(a, n, 2), m.bears(a, n, 2));

@@ -1632,6 +1632,7 @@ public final class SaddlerKnows {
     /** The search for the least stitching by which somebody bears his saddles. */
     private static final class Stitching {
         private static final int MOST_STITCHED = 2;
+        private static final int MOST_COST = MOST_STITCHED * (FIT_COUNT - 1);
 
         private final Pinches pinches;
         private final Stand trial = new Stand();
@@ -1644,42 +1645,42 @@ public final class SaddlerKnows {
             this.pinches = pinches;
         }
 
+        /** Costs are tried rising: the first by which he bears them is the least. */
         void search(Stand now, int person, int weeks) {
             trial.copy(now);
             this.person = person;
             this.weeks = weeks;
-            leastCoins = NONE;
+            leastCoins = trial.bearsAny(person) ? NONE : 0;
             leastFits = NONE;
-            if (!trial.bearsAny(person)) {
-                leastCoins = 0;
-                return;
-            }
-            searchFrom(0, 0, MOST_STITCHED);
-        }
-
-        /** Looks at the trial as it is, then stitches each place from this one on, while more may be stitched. */
-        private void searchFrom(int place, int cost, int more) {
-            if (leastCoins != NONE && cost > leastCoins) {
-                return;
-            }
-            if (isLess(cost) && pinches.firstThrow(trial, person, weeks) == NONE) {
-                leastCoins = cost;
-                leastFits = fitsTold();
-            }
-            for (int k = place; k < PLACES && more > 0; k++) {
-                int was = at(trial.fit, k);
-                for (int fit = 0; fit < FIT_COUNT && trial.isOn(k, person); fit++) {
-                    if (fit != was) {
-                        put(trial.fit, k, fit);
-                        searchFrom(k + 1, cost + Math.abs(fit - was), more - 1);
-                        put(trial.fit, k, was);
-                    }
+            for (int cost = 0; cost <= MOST_COST && leastCoins == NONE; cost++) {
+                searchFrom(0, cost, MOST_STITCHED);
+                if (leastFits != NONE) {
+                    leastCoins = cost;
                 }
             }
         }
 
-        private boolean isLess(int cost) {
-            return leastCoins == NONE || cost < leastCoins || cost == leastCoins && fitsTold() < leastFits;
+        /** Spends all the coins left on stitching in this place and later ones. */
+        private void searchFrom(int place, int left, int more) {
+            if (left == 0) {
+                int fits = fitsTold();
+                boolean isLess = leastFits == NONE || fits < leastFits;
+                if (isLess && pinches.firstThrow(trial, person, weeks) == NONE) {
+                    leastFits = fits;
+                }
+                return;
+            }
+            for (int k = place; k < PLACES && more > 0; k++) {
+                int was = at(trial.fit, k);
+                for (int fit = 0; fit < FIT_COUNT && trial.isOn(k, person); fit++) {
+                    int cost = Math.abs(fit - was);
+                    if (cost > 0 && cost <= left) {
+                        put(trial.fit, k, fit);
+                        searchFrom(k + 1, left - cost, more - 1);
+                        put(trial.fit, k, was);
+                    }
+                }
+            }
         }
 
         private int fitsTold() {
