@@ -338,6 +338,9 @@ public final class PromisesTest {
         worth(6, "y:!s=1&s=7?6");
         worth(6, "y:!!(b<s)?6");
         worth(8, "y:1+2>2*1?8");
+        worth(9, "y:s=0|s=7&(s=0|s=7&(s=0|s=7&[1+1*[1+1*[1+1*1]]]=4))?9");
+        due("a law of 240 bytes", county("p;p;l", "y:" + "0+".repeat(118) + "12").saddle(0, 3), 12);
+        due("a law of thirty clauses", county("p;p;l", "y:s=0?1;".repeat(29) + "y:7;y:08").saddle(0, 3), 7);
         SaddlerKnows x = county("pt9;pt9b0;lf0", "y:w-[w/10]*10/1-9");
         due("weeks(60)", x.weeks(60), 60);
         due("weeks(39)", x.weeks(39), 99);
