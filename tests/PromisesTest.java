@@ -1,18 +1,9 @@
-import java.util.NoSuchElementException;
-
 /** Each promise by hand: ordinary calls, the edges that the document names, wrong arguments. */
-public final class PromisesTest {
-    private static final int NONE = -1;
-    private static final int HIDDEN = -1000000;
-    private static final int NO_SUCH = Integer.MIN_VALUE;
+public final class PromisesTest extends Calls {
     private static final int[] FAR = {Integer.MIN_VALUE, -2, -1, 6, 100, Integer.MAX_VALUE};
 
     /** Pinches by no law: 0 on 1: 1 + 2 a week, 2 on 1: 0, 1 on 2: 2 + 1; nobody on 0. */
     private static final String THREE = "sh3k30;ps6b5t2;ps4b7t9;ps2b3t0;lr0u1f6;lr2u1f7;lr1u2f1";
-
-    private static int promise;
-    private static int asked;
-    private static int wrong;
 
     public static void main(String[] args) {
         newObject();
@@ -54,74 +45,11 @@ public final class PromisesTest {
         mosts();
         images();
         counts();
-        System.out.println("promises: " + asked + " answers asked, " + wrong + " wrong");
-        if (wrong != 0) {
-            System.exit(1);
-        }
-    }
-
-    private static void due(String call, long got, long want) {
-        asked++;
-        if (got != want) {
-            wrong++;
-            System.out.println("promise " + promise + ": " + call + " answered " + got + ", due is " + want);
-        }
-    }
-
-    private static void due(String call, boolean got, boolean want) {
-        due(call, got ? 1 : 0, want ? 1 : 0);
-    }
-
-    private static int feed(SaddlerKnows x, String text) {
-        int length = x.count(3);
-        for (int from = 0; from < text.length(); from += 20) {
-            int[] n = new int[5];
-            for (int k = 0; k < 20; k++) {
-                n[k / 4] = n[k / 4] << 8 | (from + k < text.length() ? text.charAt(from + k) : 0);
-            }
-            length = x.feed(n[0], n[1], n[2], n[3], n[4]);
-        }
-        return length;
-    }
-
-    private static int tell(SaddlerKnows x, String text, int sort) {
-        x.end(0);
-        feed(x, text);
-        return x.text(sort);
-    }
-
-    private static SaddlerKnows county(String text) {
-        SaddlerKnows x = new SaddlerKnows();
-        tell(x, text, 0);
-        return x;
-    }
-
-    private static SaddlerKnows county(String text, String law) {
-        SaddlerKnows x = county(text);
-        tell(x, law, 1);
-        x.law(0);
-        return x;
-    }
-
-    private static int person(SaddlerKnows x, int person, int what) {
-        try {
-            return x.person(person, what);
-        } catch (NoSuchElementException e) {
-            return NO_SUCH;
-        }
-    }
-
-    private static void faults(int sort, int want, String... texts) {
-        for (String text : texts) {
-            SaddlerKnows x = new SaddlerKnows();
-            feed(x, text);
-            due("fault(" + sort + ") of '" + text + "'", x.fault(sort), want);
-            due("the tape behind it", x.count(3), text.length());
-        }
+        finish("promises");
     }
 
     private static void newObject() {
-        promise = 1;
+        says("promise 1");
         SaddlerKnows x = new SaddlerKnows();
         due("NONE", SaddlerKnows.NONE, NONE);
         due("HIDDEN", SaddlerKnows.HIDDEN, HIDDEN);
@@ -144,7 +72,7 @@ public final class PromisesTest {
     }
 
     private static void feeding() {
-        promise = 2;
+        says("promise 2");
         SaddlerKnows x = new SaddlerKnows();
         due("feed of nothing", x.feed(0, 0, 0, 0, 0), 0);
         due("feed 'p;p' with bytes of 0 between", x.feed(0x70000000, 0x003b0000, 0, 0x0000, 0x00000070), 3);
@@ -173,7 +101,7 @@ public final class PromisesTest {
     }
 
     private static void ending() {
-        promise = 3;
+        says("promise 3");
         SaddlerKnows x = new SaddlerKnows();
         due("end(0)", x.end(0), true);
         due("end(1)", x.end(1), false);
@@ -193,7 +121,7 @@ public final class PromisesTest {
     }
 
     private static void countyFaults() {
-        promise = 4;
+        says("promise 4");
         faults(2, -2, "", "p;p");
         faults(-1, -2, "p;p");
         faults(0, NONE, "p;p", "  p ; p  ", "p;s;p", "l;p;p", "p;p;p;p;p;p", "ps09b00;p", "sh9k99;p;p", "sk0h0;p;p",
@@ -224,7 +152,7 @@ public final class PromisesTest {
     }
 
     private static void lawFaults() {
-        promise = 4;
+        says("promise 4");
         faults(1, NONE, "y:s", "y:1", " y : 9999 ", "y:s+b-f*t/g", "y:s>1?b", "y:!s>1?b;y:2", "y:(s>1)?b",
             "y:!(s>1|b<2)&g=1?[s+1]*2-w", "y:[s]>[b]?1", "y:s=1&!b=2|t<3?1", "y:0000", "y:!!!!!!s=1?1",
             "y:[[[[[[1]]]]]]", "y:((((((s=1))))))?1", "y:!(!(!(1=1)))?1", "y:1;y:2;y:3");
@@ -247,7 +175,7 @@ public final class PromisesTest {
     }
 
     private static void texts() {
-        promise = 5;
+        says("promise 5");
         SaddlerKnows x = new SaddlerKnows();
         due("text of no such sort", tell(x, "p;p", 2), NONE);
         due("count(3): the tape stays", x.count(3), 3);
@@ -300,7 +228,7 @@ public final class PromisesTest {
     }
 
     private static void lawWorths() {
-        promise = 8;
+        says("promise 8");
         worth(7, "y:s");
         worth(5, "y:b");
         worth(3, "y:f");
@@ -352,7 +280,7 @@ public final class PromisesTest {
     }
 
     private static void rules() {
-        promise = 6;
+        says("promise 6");
         SaddlerKnows x = county("sh0k99;p;p");
         due("rule(0)", x.rule(0), 0);
         due("rule(1)", x.rule(1), 99);
@@ -369,7 +297,7 @@ public final class PromisesTest {
     }
 
     private static void persons() {
-        promise = 7;
+        says("promise 7");
         SaddlerKnows x = county(THREE);
         int[][] told = {{6, 5, 2, 0, 0, 6}, {4, 7, 9, 0, 3, 6}, {2, 3, 0, 0, 3, 6}};
         for (int p = 0; p < 3; p++) {
@@ -399,7 +327,7 @@ public final class PromisesTest {
     }
 
     private static void saddles() {
-        promise = 8;
+        says("promise 8");
         SaddlerKnows x = county(THREE);
         int[][] told = {{0, 1, 6, 3}, {2, 1, 7, 0}, {1, 2, 1, 3}};
         for (int at = 0; at < 3; at++) {
@@ -426,7 +354,7 @@ public final class PromisesTest {
     }
 
     private static void lawsThatHold() {
-        promise = 9;
+        says("promise 9");
         SaddlerKnows x = county("p;pb4;lf4");
         due("law(0)", x.law(0), false);
         due("law(-1)", x.law(-1), true);
@@ -448,7 +376,7 @@ public final class PromisesTest {
     }
 
     private static void weeksGoing() {
-        promise = 10;
+        says("promise 10");
         SaddlerKnows x = county(THREE);
         due("weeks(0)", x.weeks(0), NONE);
         due("weeks(61)", x.weeks(61), NONE);
@@ -485,7 +413,7 @@ public final class PromisesTest {
     }
 
     private static void weeksThrowing() {
-        promise = 10;
+        says("promise 10");
         // 4 a week on 1 by two saddles, who throws at 12; each by his gall as the week began
         SaddlerKnows x = county("sh2;ps6;pb5t9;ps0;lf5;lr2f7;lr1u0f4");
         x.weeks(2);
@@ -519,7 +447,7 @@ public final class PromisesTest {
     }
 
     private static void making() {
-        promise = 11;
+        says("promise 11");
         SaddlerKnows x = county("sk9;p;p;p;lr0u1f3;lr1u0");
         due("makes(0, 3, 0)", x.makes(0, 3, 0), NONE);
         due("makes(-1, -1, 0)", x.makes(-1, -1, 0), NONE);
@@ -551,7 +479,7 @@ public final class PromisesTest {
     }
 
     private static void stitching() {
-        promise = 12;
+        says("promise 12");
         SaddlerKnows x = county("sk9;p;p;lf2");
         due("stitch(1, 5)", x.stitch(1, 5), NONE);
         due("stitch(-1, 99)", x.stitch(-1, 99), NONE);
@@ -573,7 +501,7 @@ public final class PromisesTest {
     }
 
     private static void takingOff() {
-        promise = 13;
+        says("promise 13");
         SaddlerKnows x = county(THREE);
         due("off(3)", x.off(3), NONE);
         due("off(-1)", x.off(-1), NONE);
@@ -588,7 +516,7 @@ public final class PromisesTest {
     }
 
     private static void salving() {
-        promise = 14;
+        says("promise 14");
         SaddlerKnows x = county("sk5;p;pt0;lf9", "y:8");
         due("salve(2)", x.salve(2), NONE);
         due("salve(-1)", x.salve(-1), NONE);
@@ -611,7 +539,7 @@ public final class PromisesTest {
     }
 
     private static void giving() {
-        promise = 15;
+        says("promise 15");
         SaddlerKnows x = new SaddlerKnows();
         due("give(1): no county", x.give(1), NONE);
         due("give(0): no county", x.give(0), NONE);
@@ -635,7 +563,7 @@ public final class PromisesTest {
     }
 
     private static void resting() {
-        promise = 16;
+        says("promise 16");
         SaddlerKnows x = new SaddlerKnows();
         due("rest(2): it is so", x.rest(2), false);
         due("rest(9)", x.rest(9), true);
@@ -648,7 +576,7 @@ public final class PromisesTest {
     }
 
     private static void yearsByDraws() {
-        promise = 17;
+        says("promise 17");
         SaddlerKnows x = county("sk0;p;p;p");
         due("years(0, 1)", x.years(0, 1), NONE);
         due("years(61, 1)", x.years(61, 1), NONE);
@@ -725,7 +653,7 @@ public final class PromisesTest {
     }
 
     private static void statuses() {
-        promise = 18;
+        says("promise 18");
         SaddlerKnows x = new SaddlerKnows();
         for (int what = 0; what < 5; what++) {
             due("status(" + what + ")", x.status(what), 0);
@@ -769,7 +697,7 @@ public final class PromisesTest {
     }
 
     private static void undoing() {
-        promise = 19;
+        says("promise 19");
         SaddlerKnows x = county("sk20;ps0;pt9b0;lf5");
         x.weeks(1);
         x.makes(1, 0, 3);
@@ -833,7 +761,7 @@ public final class PromisesTest {
     }
 
     private static void logging() {
-        promise = 20;
+        says("promise 20");
         SaddlerKnows x = county("sh2;ps6;pb5t9;ps0;lf5;lr2f7;lr1u0f4");
         due("log(0, 0)", x.log(0, 0), NONE);
         x.weeks(3);
@@ -855,7 +783,7 @@ public final class PromisesTest {
     }
 
     private static void limits() {
-        promise = 21;
+        says("promise 21");
         SaddlerKnows x = county("pt0;pt9;p");
         due("limit(0)", x.limit(0), 30);
         due("limit(1)", x.limit(1), 12);
@@ -867,7 +795,7 @@ public final class PromisesTest {
     }
 
     private static void pinches() {
-        promise = 22;
+        says("promise 22");
         SaddlerKnows x = county(THREE);
         due("pinch(0, 1, 0)", x.pinch(0, 1, 0), 9);
         due("pinch(1, 0, 5)", x.pinch(1, 0, 5), 1);
@@ -891,7 +819,7 @@ public final class PromisesTest {
     }
 
     private static void bests() {
-        promise = 23;
+        says("promise 23");
         SaddlerKnows x = county(THREE);
         due("best(0, 0)", x.best(0, 0), 7);
         due("best(0, 1)", x.best(0, 1), 2);
@@ -911,7 +839,7 @@ public final class PromisesTest {
     }
 
     private static void throwings() {
-        promise = 24;
+        says("promise 24");
         SaddlerKnows x = county(THREE);
         due("throwing(0): he bears none", x.throwing(0), NONE);
         due("throwing(1): 3 a week to 12", x.throwing(1), 4);
@@ -939,7 +867,7 @@ public final class PromisesTest {
     }
 
     private static void bearings() {
-        promise = 25;
+        says("promise 25");
         SaddlerKnows x = county("sh3k0;ps6b2t9;pb7t0;ps0b5t5;lf4;lr1u2f1;lr2u0f2;lr2f9");
         due("bears(1, 4, 0): he does not anyhow", x.bears(1, 4, 0), 0);
         due("bears(1, 4, 1)", x.bears(1, 4, 1), 49);
@@ -988,7 +916,7 @@ public final class PromisesTest {
     }
 
     private static void ringsAndChains() {
-        promise = 26;
+        says("promise 26");
         SaddlerKnows x = county("p;p;p;p;p;p;lr0u1;lr1u2;lr2u3;lr3u4;lr4u5;lr5u0");
         due("ring() of six", x.ring(), 6);
         x.makes(3, 1, 0);
@@ -997,7 +925,7 @@ public final class PromisesTest {
         due("ring() of two", x.ring(), 2);
         x.off(7);
         x.off(6);
-        promise = 27;
+        says("promise 27");
         due("chain(0, 5)", x.chain(0, 5), 5);
         due("chain(5, 0)", x.chain(5, 0), 1);
         due("chain(3, 3)", x.chain(3, 3), 0);
@@ -1008,15 +936,15 @@ public final class PromisesTest {
         x.off(5);
         due("chain(5, 0): by none", x.chain(5, 0), NONE);
         due("chain(0, 5)", x.chain(0, 5), 5);
-        promise = 26;
+        says("promise 26");
         due("ring(): none", x.ring(), NONE);
-        promise = 7;
+        says("promise 7");
         due("person(0, 5)", person(x, 0, 5), 62);
         due("person(5, 5)", person(x, 5, 5), 0);
     }
 
     private static void seating() {
-        promise = 28;
+        says("promise 28");
         SaddlerKnows x = county("p;p");
         due("seats(0)", x.seats(0), 10);
         due("seats(1): 1 and 1", x.seats(1), 2);
@@ -1046,7 +974,7 @@ public final class PromisesTest {
     }
 
     private static void seeing() {
-        promise = 29;
+        says("promise 29");
         SaddlerKnows x = county("sh3;ps6b2t9;pb7t0;ps0b5t5;lf4;lr1u2f1;lr2u0f2;lr2f9");
         due("seen(3, 1, 1, true)", x.seen(3, 1, 1, true), NONE);
         due("seen(-1, 1, 1, true)", x.seen(-1, 1, 1, true), NONE);
@@ -1054,11 +982,11 @@ public final class PromisesTest {
         due("seen(1, 10, 1, true)", x.seen(1, 10, 1, true), NONE);
         due("seen(1, 1, -1, true)", x.seen(1, 1, -1, true), NONE);
         due("seen(1, 1, 100, true)", x.seen(1, 1, 100, true), NONE);
-        promise = 30;
+        says("promise 30");
         due("fits(0, -1): all", x.fits(0, -1), 10);
-        promise = 29;
+        says("promise 29");
         due("seen(1, 2, 13, true)", x.seen(1, 2, 13, true), 1);
-        promise = 30;
+        says("promise 30");
         // in two weeks twice: fit apart from 7, 2 and 2
         due("fits(0, -1)", x.fits(0, -1), 5);
         due("fits(0, 0)", x.fits(0, 0), 0);
@@ -1069,9 +997,9 @@ public final class PromisesTest {
         due("fits(4, -1)", x.fits(4, -1), NONE);
         due("fits(-1, -1)", x.fits(-1, -1), NONE);
         due("fits(3, -1): all 2 apart from 7 or more", x.fits(3, -1), 7);
-        promise = 29;
+        says("promise 29");
         due("seen(1, 1, 8, false): less than 8", x.seen(1, 1, 8, false), 2);
-        promise = 30;
+        says("promise 30");
         due("fits(0, -1)", x.fits(0, -1), 1);
         due("fits(0, 0)", x.fits(0, 0), 4);
         due("fits(0, 1)", x.fits(0, 1), NONE);
@@ -1081,16 +1009,16 @@ public final class PromisesTest {
         due("seen(0, 1, 0, false): never", x.seen(0, 1, 0, false), 3);
         due("fits(0, -1): nothing", x.fits(0, -1), 0);
         due("fits(0, 0)", x.fits(0, 0), NONE);
-        promise = 31;
+        says("promise 31");
         due("ask(0, 1): nothing fits", x.ask(0, 1), NONE);
-        promise = 29;
+        says("promise 29");
         for (int k = 4; k <= 10; k++) {
             due("seen", x.seen(0, 9, 99, false), k);
         }
         due("seen: there are ten", x.seen(0, 9, 99, false), NONE);
         due("count(8)", x.count(8), 10);
         due("count(10): no act", x.count(10), 4);
-        promise = 30;
+        says("promise 30");
         // behind the throw in the second week the gall is half, and heals
         x = county("sh1;p;pt9b0;lf5", "y:f");
         x.seen(1, 3, 5, true);
@@ -1100,7 +1028,7 @@ public final class PromisesTest {
     }
 
     private static void asking() {
-        promise = 31;
+        says("promise 31");
         SaddlerKnows x = county("sh3;ps6b2t9;pb7t0;ps0b5t5;lf4;lr1u2f1;lr2u0f2;lr2f9");
         x.seen(1, 2, 13, true);
         due("ask(0, 1): galls 7 .. 11", x.ask(0, 1), 9);
@@ -1118,7 +1046,7 @@ public final class PromisesTest {
     }
 
     private static void waitings() {
-        promise = 32;
+        says("promise 32");
         SaddlerKnows x = county("ps6t9;ps4t1");
         due("waiting(0, 1, 3, 1, 0): 4 less 1", x.waiting(0, 1, 3, 1, 0), 3);
         due("waiting(0, 1, 3, 1, 1)", x.waiting(0, 1, 3, 1, 1), -1);
@@ -1137,7 +1065,7 @@ public final class PromisesTest {
     }
 
     private static void rests() {
-        promise = 33;
+        says("promise 33");
         SaddlerKnows x = county("ps6t9;pt0");
         int[] want = {4, 5, 6, 7, 8, 9, 60, 70, 80, 90};
         due("rests(0, 1, -1)", x.rests(0, 1, -1), want.length);
@@ -1156,7 +1084,7 @@ public final class PromisesTest {
     }
 
     private static void oddsOfIdleWeeks() {
-        promise = 34;
+        says("promise 34");
         SaddlerKnows x = county("sh3;ps6b2t9;pb7t0;ps0b5t5;lf4;lr1u2f1;lr2u0f2;lr2f9");
         // 5 a week to 20, 3 healed by an idle one, 0 at least
         due("odds(2, 4, 50)", x.odds(2, 4, 50), 62500000);
@@ -1181,7 +1109,7 @@ public final class PromisesTest {
     }
 
     private static void sharing() {
-        promise = 35;
+        says("promise 35");
         SaddlerKnows x = county("ps0b0;ps0b1t0;ps0b0t0;lr0u1f3;lr1u2f5;lr2u1f1");
         due("shares(1, 999): none", x.shares(1, 999), 0);
         x.off(2);
@@ -1205,7 +1133,7 @@ public final class PromisesTest {
     }
 
     private static void mosts() {
-        promise = 36;
+        says("promise 36");
         SaddlerKnows x = county("ps5b3t1;ps5b8t9;ps2b8t9;ps9b1t0;lr0u1f8;lr1u0f3;lr0u2f9;lr3u2f8");
         // pinches: 1 on 1, 1 on 0, 2 and 3 on 2
         int[] want = {0, 2, 0, 3, 1, 1, 3, 8, 8, 0, 15, 0, 3, 1};
@@ -1240,7 +1168,7 @@ public final class PromisesTest {
     }
 
     private static void images() {
-        promise = 37;
+        says("promise 37");
         SaddlerKnows x = county(THREE);
         due("image()", x.image(), 0);
         x.weeks(2);
@@ -1251,7 +1179,7 @@ public final class PromisesTest {
         tell(x, "y:1", 1);
         x.law(0);
         x.rest(9);
-        promise = 38;
+        says("promise 38");
         due("log(0, 0): 1 threw", x.log(1, 0), 2);
         due("back(): the latest image", x.back(), 2);
         due("count(5)", x.count(5), 2);
@@ -1292,7 +1220,7 @@ public final class PromisesTest {
     }
 
     private static void counts() {
-        promise = 39;
+        says("promise 39");
         SaddlerKnows x = county(THREE);
         feed(x, "abc");
         x.weeks(2);
