@@ -151,8 +151,10 @@ public final class EdgesOfQuestionsTest extends Calls {
         best("y:7", 0, 7);
         best("y:f=4|f=7?3;y:9", 4, 3);
         best("y:f=7|f=8?3;y:9", 7, 3);
-        best("y:f=9?3;y:4", 9, 3);
-        best("y:f=0?3;y:4", 0, 3);
+        for (int fit = 0; fit <= 9; fit++) {
+            best("y:f=" + fit + "?3;y:4", fit, 3);
+            best("y:f=" + fit + "|f=9?3;y:4", fit, 3);
+        }
         says("3. PINCHES, as held within 0 .. 30");
         best("y:39-f", 0, 30);
         best("y:38-f", 9, 29);
@@ -563,6 +565,12 @@ public final class EdgesOfQuestionsTest extends Calls {
         due("ask(0, 1): 6 and 9", x.ask(0, 1), 7);
         x.seen(1, 1, 9, true);
         due("ask(0, 1): 9 alone, apart by one anyhow", x.ask(0, 1), 0);
+        SaddlerKnows low = county("p;pt0;l", "y:f");
+        low.seen(1, 1, 2, false);
+        due("ask(0, 1): 0 and 1", low.ask(0, 1), 1);
+        SaddlerKnows high = county("p;pt0;l", "y:f");
+        high.seen(1, 1, 8, true);
+        due("ask(0, 1): 8 and 9", high.ask(0, 1), 9);
         says("31. NONE: nothing fits");
         x.seen(1, 1, 10, true);
         due("ask(0, 1)", x.ask(0, 1), NONE);
@@ -695,6 +703,10 @@ public final class EdgesOfQuestionsTest extends Calls {
         says("3. IDLE: he HEALS (0 at least)");
         x = county("sh9;p;pt0;l", "y:w=0?5;y:w=1?0;y:15");
         due("odds(1, 4, 50): 5 healed to 0, not less", x.odds(1, 4, 50), 4 * 62500000);
+        x = county("sh9;p;pt0;l", "y:29");
+        due("odds(1, 2, 50): 0 stays 0, and 29 are not 30", x.odds(1, 2, 50), 250000000);
+        x = county("sh9;p;pt0;l", "y:w=0?9;y:w=2?30;y:29");
+        due("odds(1, 2, 50): 9 healed to 0", x.odds(1, 2, 50), 250000000);
         says("3. IDLE: does not THROW");
         x = county("sh0;p;pt9;p;p;p;l;lr2;lr3;lr4", "y:30");
         x.weeks(1);
@@ -741,9 +753,11 @@ public final class EdgesOfQuestionsTest extends Calls {
         due("shares(3, 1)", x.shares(3, 1), NONE);
         due("shares(-1, 1)", x.shares(-1, 1), NONE);
         due("shares(0, 1) of no county", new SaddlerKnows().shares(0, 1), NONE);
-        x = county("p;pt0;l", "y:9");
-        x.weeks(1);
-        due("shares(1, 999): all", x.shares(1, 999), 999);
+        for (int gall : new int[] {1, 9}) {
+            x = county("p;pt0;l", "y:" + gall);
+            x.weeks(1);
+            due("shares(1, 999): all of " + gall, x.shares(1, 999), 999);
+        }
     }
 
     // ---- most ----
@@ -767,6 +781,16 @@ public final class EdgesOfQuestionsTest extends Calls {
         due("most(0): 9 and 9", x.most(0), 1);
         due("most(1): 9 and 9", x.most(1), 1);
         due("most(6): 9 and 9", x.most(6), 0);
+        says("36. STRONGEST (3), BROADEST (4), HOTTEST (5)");
+        x = county("ps5b1t1;ps4b9t2;ps1b2t3;ps1b2t2");
+        due("most(3)", x.most(3), 0);
+        due("most(4)", x.most(4), 1);
+        due("most(5)", x.most(5), 2);
+        x = county("ps5b6t5;ps6b5t4;ps1b2t3;ps0b5t7");
+        due("most(3)", x.most(3), 1);
+        due("most(4)", x.most(4), 0);
+        due("most(5)", x.most(5), 3);
+        says("36. the highest of each, also if it is the last one's");
         x = county("ps1b1t1;ps2b2t2;ps3b3t3;lr2u1f1;lr2u0f2;lr1u0f3", "y:f");
         int[] last = {0, 0, 2, 2, 2, 2, 2};
         for (int what = 0; what < last.length; what++) {
@@ -818,6 +842,12 @@ public final class EdgesOfQuestionsTest extends Calls {
         due("most(9): 11 and 6", x.most(9), 2);
         x.weeks(1);
         due("most(9): nobody bears any", x.most(9), 0);
+        x = county("pt9;pt9;pt9;lr0u1;lr1u0;lr1u2", "y:12");
+        due("most(9): all", x.most(9), 7);
+        x.off(2);
+        due("most(9): 0 and 1", x.most(9), 3);
+        x.off(0);
+        due("most(9): 0 alone", x.most(9), 1);
         says("3. IN RINGS: ABOVE themselves. SIDES: how many pairs sit on one another");
         x = county("p;p;p;p;p;p;lr0u1;lr1u0;lr1u2;lr2u1;lr3u4;lr4u5;lr5u3");
         due("most(12)", x.most(12), 63);

@@ -54,6 +54,14 @@ public final class EdgesOfTextsTest extends Calls {
         x.end(239);
         due("feed of two to 239", x.feed(1 << 24, 0, 0, 0, 1), NONE);
         due("feed of one to 239", x.feed(0, 0, 0, 1 << 16, 0), 240);
+        for (int bit = 0; bit < 32; bit++) {
+            int[] n = new int[5];
+            n[bit % 5] = 1 << bit;
+            x.end(240);
+            due("feed of the bit " + bit + " to 240", x.feed(n[0], n[1], n[2], n[3], n[4]), NONE);
+            x.end(239);
+            due("feed of the bit " + bit + " to 239", x.feed(n[0], n[1], n[2], n[3], n[4]), 240);
+        }
 
         says("2. a text as long as the tape");
         x = new SaddlerKnows();
@@ -374,6 +382,9 @@ public final class EdgesOfTextsTest extends Calls {
         says("1. within one another: beside one another are no deeper");
         faults(1, NONE, "y:[[[[[[s]]]]]]+[[[[[[s]]]]]]*[s]", "y:!!!!!!s=1&!!!!!!s=1|((((((s=1))))))?[[[[[[1]]]]]]");
         faults(1, NONE, "y:!!!s=[[[1]]]&[s]=[1]?[s]");
+        faults(1, NONE, "y:s=[[[[[[1]]]]]]?1", "y:s=1&((((((s=1))))))?1", "y:s=1|!!!!!!s=1?1", "y:s=1?[[[[[[1]]]]]]");
+        faults(1, 10, "y:s=[[[[[[[1]]]]]]]?1");
+        faults(1, 12, "y:s=1&(((((((s=1)))))))?1", "y:s=1|!!!!!!!s=1?1", "y:s=1?[[[[[[[1]]]]]]]");
         faults(1, 12, "y:!!!s=[[[1+[1]]]]?1");
     }
 
@@ -443,6 +454,35 @@ public final class EdgesOfTextsTest extends Calls {
         worth(0, "y:s>7?1");
         worth(1, "y:s<8?1");
         worth(1, "y:s>6?1");
+        says("1. CONDITION: TRUTHS with |; TRUTH: UNITS with &; UNIT: ! UNIT, ( CONDITION )");
+        String[] yes = {"s=7", "s>6", "b<6", "!s=6", "!s>7", "!!f=3", "(t=2)", "!(t<2)"};
+        String[] no = {"s=6", "s>7", "b<5", "!s=7", "!s>6", "!!f=4", "(t=3)", "!(t<3)"};
+        for (int i = 0; i < yes.length; i++) {
+            worth(9, "y:" + yes[i] + "?9");
+            worth(0, "y:" + no[i] + "?9");
+            for (int j = 0; j < yes.length; j++) {
+                worth(9, "y:" + yes[i] + "&" + yes[j] + "?9");
+                worth(0, "y:" + yes[i] + "&" + no[j] + "?9");
+                worth(0, "y:" + no[i] + "&" + yes[j] + "?9");
+                worth(9, "y:" + yes[i] + "|" + no[j] + "?9");
+                worth(9, "y:" + no[i] + "|" + yes[j] + "?9");
+                worth(0, "y:" + no[i] + "|" + no[j] + "?9");
+                worth(9, "y:" + yes[i] + "|" + no[j] + "&" + no[i] + "?9");
+                worth(0, "y:(" + yes[i] + "|" + no[j] + ")&" + no[i] + "?9");
+                worth(0, "y:!(" + yes[i] + "|" + no[j] + ")?9");
+            }
+        }
+        says("1. SUM: TERMS with + or - between; TERM: ATOMS with * or / between; [ SUM ]");
+        worth(10, "y:1+3*3");
+        worth(12, "y:[1+3]*3");
+        worth(2, "y:9-4-3");
+        worth(8, "y:9-[4-3]");
+        worth(1, "y:9/3/3");
+        worth(9, "y:9/[3/3]");
+        worth(6, "y:4/2*3");
+        worth(3, "y:7/2");
+        worth(9, "y:6*3/2");
+        worth(6, "y:6*[3/2]");
         says("2. PINCH held within 0 .. 30");
         worth(30, "y:31");
         worth(30, "y:30");
