@@ -123,6 +123,13 @@ public final class EdgesOfTextsTest extends Calls {
         faults(0, 2, "s;s", "s;s;p;p", "s;sh1");
         faults(0, 6, "p;s;p;s", "s;p;p;sk1");
 
+        SaddlerKnows x = new SaddlerKnows();
+        feed(x, "s;p;p;s");
+        due("fault(0)", x.fault(0), 6);
+        due("fault(0): a second s, not a third one", x.fault(0), 6);
+        due("text(0) of the next one", tell(x, "s;p;p", 0), 2);
+        due("text(0) of one more", tell(x, "p;p;s", 0), 2);
+
         says("1. p (a PERSON; 2 .. 6)");
         faults(0, 1, "p");
         faults(0, 3, "s;p", "l;p");
@@ -133,7 +140,7 @@ public final class EdgesOfTextsTest extends Calls {
         due("text(0) of two", tell(new SaddlerKnows(), "p;p", 0), 2);
 
         says("1. l (a SADDLE; none to 8)");
-        SaddlerKnows x = county("p;p");
+        x = county("p;p");
         due("count(1) of none", x.count(1), 0);
         faults(0, NONE, EIGHT, EIGHT + ";s");
         x = county(EIGHT);
