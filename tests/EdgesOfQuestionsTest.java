@@ -23,6 +23,7 @@ public final class EdgesOfQuestionsTest extends Calls {
         seenBounds();
         seenOrMore();
         seenAsTold();
+        byTheLawThatHolds();
         fits();
         ask();
         waitingBounds();
@@ -522,6 +523,38 @@ public final class EdgesOfQuestionsTest extends Calls {
         due("the fits: nobody ever has 12", bits(x), 1023);
         x.seen(1, 3, 7, true);
         due("the fits with 7 or more behind three", bits(x), 2 + 16 + 32 + 64 + 128);
+    }
+
+    private static void byTheLawThatHolds() {
+        says("2. PINCH of a SADDLE: WORTH by the LAW that holds: FITS and ASK, when they are asked");
+        SaddlerKnows x = county("ps0;pb9t0;l", "y:f");
+        tell(x, "y:f*2", 1);
+        x.seen(1, 1, 7, true);
+        due("the fits by f: 7 .. 9", bits(x), 896);
+        due("ask(0, 2) by f: 14, 16, 18", x.ask(0, 2), 15);
+        x.law(1);
+        due("the fits by twice f: 4 .. 9", bits(x), 1008);
+        due("ask(0, 1) by twice f: 8, 10 .. 18", x.ask(0, 1), 13);
+        x.law(NONE);
+        due("the fits by none: 9 less f", bits(x), 7);
+        due("ask(0, 2) by none: 14, 16, 18", x.ask(0, 2), 15);
+        x.law(0);
+        due("the fits by f once more", bits(x), 896);
+        says("2. PINCH of a SADDLE: WORTH by the LAW that holds: what else is asked");
+        x = county("ps0;pb9t0;lf9", "y:30");
+        tell(x, "y:10-f/9*9", 1);
+        int[][] want = {{30, 0, 60, 1, NONE, 1000000000}, {1, 9, 2, 30, 0, 0}, {0, 9, 1, NONE, 0, 0}};
+        int[] law = {0, 1, NONE}; // by none: 9 less f for 0 on 1, and 1 for 1 on 0
+        for (int k = 0; k < law.length; k++) {
+            x.law(law[k]);
+            due("person(1, 4)", person(x, 1, 4), want[k][0]);
+            due("pinch(0, 1, 9)", x.pinch(0, 1, 9), want[k][0]);
+            due("best(0, 0)", x.best(0, 0), want[k][1]);
+            due("seats(1)", x.seats(1), want[k][2]);
+            due("throwing(1)", x.throwing(1), want[k][3]);
+            due("bears(1, 5, 0)", x.bears(1, 5, 0), want[k][4]);
+            due("odds(1, 1, 0)", x.odds(1, 1, 0), want[k][5]);
+        }
     }
 
     private static void fits() {
